@@ -931,7 +931,7 @@ public final class DuskOnRopes {
                     outcomes[k][n] = outcome(valley.paces[k], now, k, n);
                 }
             }
-            choose(valley, 0, 0);
+            choose(this, valley, 0, 0);
         }
 
         private static int outcome(int pace, Dusk now, int k, int n) {
@@ -943,20 +943,20 @@ public final class DuskOnRopes {
         }
 
         /** Ways are tried in their order, so that of several as good the first one stays. */
-        private void choose(Valley valley, int k, int sum) {
-            if (fewest != NONE && sum >= fewest) {
+        private static void choose(Planner p, Valley valley, int k, int sum) {
+            if (p.fewest != NONE && sum >= p.fewest) {
                 return;
             }
             if (k >= valley.ropes) {
-                fewest = sum;
-                System.arraycopy(hours, 0, bestHours, 0, MOST_ROPES);
+                p.fewest = sum;
+                System.arraycopy(p.hours, 0, p.bestHours, 0, MOST_ROPES);
                 return;
             }
             for (int n = 0; n <= PLAN_HOURS; n++) {
-                hours[k] = n;
-                turns[k] = outcomes[k][n];
-                if (valley.meetsWantsEndingAt(k, turns)) {
-                    choose(valley, k + 1, sum + n);
+                p.hours[k] = n;
+                p.turns[k] = p.outcomes[k][n];
+                if (valley.meetsWantsEndingAt(k, p.turns)) {
+                    choose(p, valley, k + 1, sum + n);
                 }
             }
         }
@@ -977,25 +977,25 @@ public final class DuskOnRopes {
         void search(Valley valley) {
             fewest = NONE;
             if (valley.men >= valley.ropes) {
-                choose(valley, 0, 0, 0);
+                choose(this, valley, 0, 0, 0);
             }
         }
 
         /** Ways are tried in their order, so that of several as good the first one stays. */
-        private void choose(Valley valley, int k, int taken, int sum) {
-            if (fewest != NONE && sum >= fewest) {
+        private static void choose(Poster p, Valley valley, int k, int taken, int sum) {
+            if (p.fewest != NONE && sum >= p.fewest) {
                 return;
             }
             if (k >= valley.ropes) {
-                fewest = sum;
-                System.arraycopy(posted, 0, bestMen, 0, MOST_ROPES);
+                p.fewest = sum;
+                System.arraycopy(p.posted, 0, p.bestMen, 0, MOST_ROPES);
                 return;
             }
             for (int man = 0; man < valley.men; man++) {
                 if ((taken >> man & 1) == 0) {
-                    posted[k] = man;
+                    p.posted[k] = man;
                     int way = Math.abs(valley.manYards[man] - valley.ropeYards[k]);
-                    choose(valley, k + 1, taken | 1 << man, sum + way);
+                    choose(p, valley, k + 1, taken | 1 << man, sum + way);
                 }
             }
         }

@@ -83,6 +83,10 @@ public final class LightTest {
         plan(Check.laid("r0,5,0,0;w0,0;w0,1;"), NONE, NONE);
         Check.due("nothing changes", 1, stuck.spent(1));
         Check.due("nothing changes", 6, stuck.rope(0, 3));
+        stuck.hour(0, 1);
+        Check.due("plan(-1) anew, 6 and 5", 1, stuck.plan(-1));
+        stuck.hour(0, 1);
+        Check.due("plan(-1) anew, 1 and 10 by an odd hour first", 4, stuck.plan(-1));
     }
 
     private static void planTies() {
@@ -113,6 +117,11 @@ public final class LightTest {
         Check.due("best(6, 1), by 36 and 15, by 30 and 36", 24, stuck.best(6, 1));
         Check.due("best(6, 0)", 1, stuck.best(6, 0));
         Check.due("best(12, 0), all are night by either", 0, stuck.best(12, 0));
+        DuskOnRopes five = Check.laid("r0,1,0,0;r5,1,0,0;r10,1,0,0;r15,1,0,0;r20,5,0,0;");
+        Check.due("best(5, 0) of five", 4, five.best(5, 0));
+        Check.due("best(5, 1) of five", 4, five.best(5, 1));
+        Check.due("best(1, 0) of five, none by any", 0, five.best(1, 0));
+        Check.due("best(1, 1) of five", 0, five.best(1, 1));
         int[][] wrong = {{0, 0}, {13, 0}, {1, -1}, {1, 2}, {MIN, 0}, {MAX, 1}, {1, MIN}, {1, MAX}};
         for (int[] call : wrong) {
             Check.due("best(" + call[0] + ", " + call[1] + ")", BAD, x.best(call[0], call[1]));
@@ -142,6 +151,15 @@ public final class LightTest {
         post(Check.laid("r12,1,0,0;r10,1,0,0;m11;m0;m23;"), 11, 0, 1);
         post(Check.laid("r0,1,0,0;r1,1,0,0;r2,1,0,0;r3,1,0,0;r4,1,0,0;m9;m9;m9;m9;m9;m9;"), 35, 0, 1, 2, 3, 4);
         post(Check.laid("r0,1,0,0;r1,1,0,0;r2,1,0,0;r3,1,0,0;r4,1,0,0;m23;m4;m3;m2;m1;m0;"), 0, 5, 4, 3, 2, 1);
+        // A search must not know of the valley before.
+        DuskOnRopes again = Check.laid("r5,1,0,0;m5;");
+        post(again, 0, 0);
+        Check.write(again, "r5,1,0,0;m9;");
+        again.lay();
+        post(again, 4, 0);
+        Check.write(again, "r5,1,0,0;r6,1,0,0;m9;");
+        again.lay();
+        post(again, NONE, NONE, NONE);
     }
 
     private static void brownIs(DuskOnRopes x, int all, int row, int first) {

@@ -11,6 +11,7 @@ public final class SeenTest {
         slips();
         spent();
         evenings();
+        longEvenings();
         Check.end("SeenTest");
     }
 
@@ -193,6 +194,17 @@ public final class SeenTest {
         for (int[] c : wrong) {
             Check.due("evening(" + c[0] + ", " + c[1] + ", " + c[2] + ")", BAD, x.evening(c[0], c[1], c[2]));
         }
-        Check.holds("evening(9999, 24, 0)", x.evening(9999, 24, 0) >= 0);
+    }
+
+    /** The answers are from a reckoning of their own, outside Java. */
+    private static void longEvenings() {
+        DuskOnRopes x = Check.laid("r1,5,0,20;r6,4,2,20;r12,3,1,20;r17,5,3,20;r23,2,0,28;"
+            + "w1,3;w6,2;w12,1;w17,2;w23,3;w9,1;w20,2;w3,2;");
+        int[][] due = {{1, 2, 3, 1}, {5, 3, 6, 2}, {77, 4, 6, 7}, {9999, 24, 3, 15}, {4242, 7, 4, 10}, {1234, 12, 3, 5}};
+        for (int[] row : due) {
+            String call = "evening(" + row[0] + ", " + row[1] + ", ";
+            Check.due(call + "0)", row[2], x.evening(row[0], row[1], 0));
+            Check.due(call + "1)", row[3], x.evening(row[0], row[1], 1));
+        }
     }
 }

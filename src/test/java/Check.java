@@ -2,15 +2,21 @@
 final class Check {
     private static int asked = 0;
     private static int wrong = 0;
+    private static String part = "";
 
     private Check() {
+    }
+
+    /** What is wrong from here on is told with this name ahead; "" for none. */
+    static void begin(String name) {
+        part = name.isEmpty() ? "" : name + ": ";
     }
 
     static void due(String call, long want, long got) {
         asked++;
         if (got != want) {
             wrong++;
-            System.out.println(call + " answered " + got + ", due is " + want);
+            System.out.println(part + call + " answered " + got + ", due is " + want);
         }
     }
 
@@ -18,7 +24,7 @@ final class Check {
         asked++;
         if (!so) {
             wrong++;
-            System.out.println(what + ": not so");
+            System.out.println(part + what + ": not so");
         }
     }
 

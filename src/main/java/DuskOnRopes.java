@@ -711,9 +711,12 @@ public final class DuskOnRopes {
 
         /** How low the sky is over a yard, if so many turns are let out. */
         int lowness(int[] turns, int yard) {
+            if (!isYard(yard)) {
+                return 0;
+            }
             int a = before[yard];
             int b = behind[yard];
-            if (a < 0 || b < 0) {
+            if (!hasRope(a) || !hasRope(b)) {
                 return 0;
             }
             int span = ropeYards[b] - ropeYards[a];

@@ -250,6 +250,13 @@ public final class EdgesOfLightTest {
         Run.laid(FIVE + "m9;m9;m9;m9;m9;").due("posts(-1)=35 posts(0)=0 posts(4)=4");
     }
 
+    @Says({"none (fewer MEN than ROPES)", "hour 0, nothing SEEN, UNDONE, KEPT"})
+    static void postsAndPlanAreOfTheValleyThatIsLaidNow() {
+        Run.laid("r3,5,0,5;m3;w3,1;").due("posts(-1)=0 posts(0)=0 plan(-1)=1 plan(0)=1").text("r3,5,0,0;m9;m8;w3,1;")
+            .due("lay()=1 posts(-1)=5 posts(0)=1 plan(-1)=2 plan(0)=2").text("r3,5,0,0;r4,1,0,0;m9;w3,3;")
+            .due("lay()=2 posts(-1)=NONE posts(0)=NONE plan(-1)=NONE plan(1)=NONE");
+    }
+
     @Says("a MAN for each ROPE, none for two")
     static void noManIsForTwoRopes() {
         // Man 0 is near to both; one of them has to be left to man 1.
@@ -317,6 +324,8 @@ public final class EdgesOfLightTest {
         Run.laid("r0,1,0,20;r1,1,0,0;r2,1,0,20;r3,1,0,0;").due("brown(0)=2 brown(1)=1 brown(2)=0");
         Run.laid("r1,1,0,20;r2,1,0,0;r3,1,0,0;r4,1,0,20;r5,1,0,0;").due("brown(0)=3 brown(1)=2 brown(2)=0");
         Run.laid("r0,1,0,20;r1,1,0,0;r2,1,0,0;r3,1,0,20;").due("brown(0)=22 brown(1)=21 brown(2)=3");
+        // The last row, 22 and 23, is shorter than the first one, 0 to 2.
+        Run.laid("r2,1,0,20;r3,1,0,0;r21,1,0,0;r22,1,0,20;").due("brown(0)=5 brown(1)=3 brown(2)=0");
         // Two rows of two: yards 2 and 3, 20 and 21.
         Run.laid("r1,1,0,30;r4,1,0,15;r19,1,0,15;r22,1,0,30;").due("sky(2)=25 sky(3)=20 sky(4)=15 sky(20)=20 sky(21)=25")
             .due("brown(0)=4 brown(1)=2 brown(2)=2");

@@ -311,7 +311,11 @@ public final class EdgesOfTextTest {
     @Says("(0 to 9 each; 1, 2 without; of several the last one counts)")
     static void costsAre1And2Without() {
         Run.laid("r1,1,0,9;r2,1,0,9;").due("hour(1,0)=1 hour(0,1)=2");
-        Run.laid("r1,1,0,9;c7,8;").due("hour(1,0)=7 hour(0,1)=8").text("r1,1,0,9;").due("lay()=1 hour(1,0)=1 hour(0,1)=2");
+        // Nor do costs of an earlier text count, be it laid or only looked at.
+        Run.laid("r1,1,0,9;c7,8;").due("hour(1,0)=7 hour(0,1)=8").text("r1,1,0,9;").due("lay()=1 hour(1,0)=1 hour(0,1)=2")
+            .due("lay()=1 hour(1,0)=1 hour(0,1)=2 lay()=1 hour(1,0)=1 hour(0,1)=2");
+        Run.fresh().text("r1,1,0,9;c7,8;").due("fault()=NONE").text("r1,1,0,9;").due("lay()=1 hour(1,0)=1 hour(0,1)=2");
+        Run.fresh().text("r1,1,0,9;c7,8;x").due("lay()=NO").text("r1,1,0,9;").due("lay()=1 hour(1,0)=1 hour(0,1)=2");
     }
 
     @Says("of several the last one counts")

@@ -2,7 +2,7 @@
 final class Check {
     private static int asked = 0;
     private static int wrong = 0;
-    private static String part = "";
+    private static volatile String part = "";
 
     private Check() {
     }
@@ -10,6 +10,10 @@ final class Check {
     /** What is wrong from here on is told with this name ahead; "" for none. */
     static void begin(String name) {
         part = name.isEmpty() ? "" : name + ": ";
+    }
+
+    static String part() {
+        return part;
     }
 
     static void due(String call, long want, long got) {

@@ -3,17 +3,35 @@ final class Check {
     private static int asked = 0;
     private static int wrong = 0;
     private static volatile String part = "";
+    /** The longest test takes some three seconds. */
+    private static final long MOST_MILLIS = 120_000;
+
+    static {
+        watch();
+    }
 
     private Check() {
+    }
+
+    /** A call that does not end must fail the test, not hold it up for ever. */
+    private static void watch() {
+        Thread watcher = new Thread(() -> {
+            try {
+                Thread.sleep(MOST_MILLIS);
+            } catch (InterruptedException e) {
+                return;
+            }
+            System.out.println(part + "a call does not end");
+            System.out.flush();
+            Runtime.getRuntime().halt(1);
+        });
+        watcher.setDaemon(true);
+        watcher.start();
     }
 
     /** What is wrong from here on is told with this name ahead; "" for none. */
     static void begin(String name) {
         part = name.isEmpty() ? "" : name + ": ";
-    }
-
-    static String part() {
-        return part;
     }
 
     static void due(String call, long want, long got) {
